@@ -47,6 +47,14 @@ final class Talk {
         return engine.rule();
     }
 
+    static GoalEngine engineWith(String... rules) {
+        GoalEngine engine = new GoalEngine();
+        for (String rule : rules) {
+            rule(engine, rule);
+        }
+        return engine;
+    }
+
     static int ask(GoalEngine engine, String text) {
         type(engine, text);
         return engine.ask();
