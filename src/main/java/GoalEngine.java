@@ -41,7 +41,7 @@ public final class GoalEngine {
     private static final int MOST_STEPS = 20;
     private static final int MOST_ANSWER_WORDS = 90;
     private static final int FULL_TANK = 300;
-    /** What the question and a full tank of the longest bodies come to. */
+    /** More than the question and a full tank of the longest bodies come to. */
     private static final int MOST_GOALS = MOST_TYPED * (FULL_TANK + 1);
 
     private static final int NONE = -1;

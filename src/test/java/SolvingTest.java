@@ -297,6 +297,11 @@ public final class SolvingTest {
             check.due("count(" + i + ")", 0, () -> x.count(which));
         }
         check.due("tank", 299, () -> x.count(3));
+        Talk.ask(x, "n2(A),n2(B),n2(C)");
+        x.solve(1);
+        x.stop();
+        check.due("no choices", 0, () -> x.count(1));
+        check.due("no goals", 0, () -> x.count(2));
         x.put(2);
         x.stop();
         check.due("what is typed stays", 1, () -> x.count(5));

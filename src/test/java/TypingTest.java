@@ -23,7 +23,8 @@ public final class TypingTest {
     }
 
     private void wordsThatAre() {
-        int[] words = {0, 56, 1, 9, -7, Integer.MAX_VALUE - 6, Integer.MIN_VALUE + 1, 2, 250, 3, 251, 4, 252, 5, 253, 6};
+        int[] words = {0, 56, 1, 9, -7, Integer.MAX_VALUE - 6, Integer.MIN_VALUE + 1, 2, 250, 3, 251, 4, 252, 5, 253,
+            6};
         GoalEngine x = new GoalEngine();
         for (int i = 0; i < words.length; i++) {
             int word = words[i];
