@@ -43,26 +43,39 @@ public final class AnswerTest {
         check.due("nine variables", "53 0 8 16 53 24 32 40 53 48 56 64", Talk.answer(x));
     }
 
-    /** C has 127 words: 63 names and 64 numbers. */
+    private static final String TERMS = "n2(1,A),n2(A,B),n2(B,C),n2(C,D),same(E,D),same(F,1),same(G,2)";
+    private static final String PAIRING = "n2(A,n7(A,A))";
+
+    /** "but only the first 90 words": A to G have 3, 7, 15, 31, 31, 1 and 1. */
     private void ninetyWords() {
-        GoalEngine x = answered("n2(1,A),n2(A,B),n2(B,D),n2(D,E),n2(E,F),n2(F,C)", "n2(A,n7(A,A))");
+        GoalEngine of89 = answered(TERMS, PAIRING);
+        check.due("89 words", 89, of89::words);
+        check.due("the last of 89", 17, () -> of89.word(88));
+        check.dueThrow("no word 89", INDEX, () -> of89.word(89));
+        GoalEngine of90 = answered(TERMS + ",same(H,3)", PAIRING);
+        check.due("90 words", 90, of90::words);
+        check.due("the last of 90", 25, () -> of90.word(89));
+        check.dueThrow("no word 90", INDEX, () -> of90.word(90));
+        GoalEngine of91 = answered(TERMS + ",same(H,n5(3))", PAIRING);
+        check.due("90 of 91 words", 90, of91::words);
+        check.due("the last but one of 91", 8 * 5 + 3, () -> of91.word(89));
+        check.dueThrow("not the last one", INDEX, () -> of91.word(90));
+    }
+
+    /** The limit may come in the middle of a term, or before the last variables: C has 127. */
+    private void farMoreThanNinetyWords() {
+        GoalEngine x = answered("n2(1,A),n2(A,B),n2(B,D),n2(D,E),n2(E,F),n2(F,C)", PAIRING);
         check.due("A, B and some of C", 90, x::words);
         check.due("word 0", 60, () -> x.word(0));
         check.due("word 3", 60, () -> x.word(3));
         check.due("word 10", 60, () -> x.word(10));
         check.due("word 16", 9, () -> x.word(16));
-        check.due("word 89", "true", "" + (x.word(89) == 9 || x.word(89) == 60));
         check.dueThrow("word 90", INDEX, () -> x.word(90));
         x.collect();
         check.due("after a collection", 90, x::words);
-        GoalEngine y = answered("n2(1,A),n2(A,B),n2(B,C),n2(C,D),n2(D,E)", "n2(A,n7(A,A))");
-        // 3, 7, 15, 31 and 34 of 63
-        check.due("the last variable is not there at all", 90, y::words);
-        GoalEngine z = answered("n2(1,A),n2(A,B),n2(B,C),n2(C,D),same(E,D),same(F,1),same(G,2),same(H,3)",
-                "n2(A,n7(A,A))");
-        // 3, 7, 15, 31, 31 and one each
-        check.due("exactly ninety", 90, z::words);
-        check.due("the last", 25, () -> z.word(89));
+        GoalEngine y = answered("n2(1,A),n2(A,B),n2(B,C),n2(C,D),n2(D,E),same(F,1)", PAIRING);
+        check.due("3, 7, 15, 31, 34 of 63, and none of F", 90, y::words);
+        check.dueThrow("word 90", INDEX, () -> y.word(90));
     }
 
     /** Without the limit this term would have 3 to the power of 18 leaves. */
@@ -102,6 +115,7 @@ public final class AnswerTest {
         test.answers();
         test.moreThanEightVariables();
         test.ninetyWords();
+        test.farMoreThanNinetyWords();
         test.hugeAnswer();
         test.noAnswer();
         test.check.end();

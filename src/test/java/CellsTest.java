@@ -2,24 +2,6 @@
 public final class CellsTest {
     private final Check check = new Check();
 
-    private void copies() {
-        String[] questions = {"n2", "!", "n2,!,n3", "n2(1)", "n2(A)", "n2(A,A)", "n2(A,B)", "n2(nil,1,n4)",
-            "n2(n3(n4(1)))", "n2(H,C,H),n3(C)", "same(A,n2(A,B,C)),!,n5"};
-        int[] due = {0, 0, 0, 2, 3, 4, 5, 4, 6, 8, 10};
-        for (int i = 0; i < due.length; i++) {
-            String question = questions[i];
-            GoalEngine x = new GoalEngine();
-            check.due("ask " + question, due[i], () -> Talk.ask(x, question));
-            check.due("cells of " + question, due[i], () -> x.count(0));
-        }
-        GoalEngine x = Talk.engineWith("n2(A),n3(B,A)", "n3(1,n4(A,B))");
-        Talk.ask(x, "n2(C)");
-        x.solve(1);
-        check.due("and of a rule", 3 + 7, () -> x.count(0));
-        x.solve(1);
-        check.due("and of another", 3 + 7 + 8, () -> x.count(0));
-    }
-
     private void counting() {
         GoalEngine x = Talk.engineWith("n2(1),n3", "n2(2)", "n3");
         for (int which : new int[] {-1, 7, 8, Integer.MIN_VALUE, Integer.MAX_VALUE}) {
@@ -53,119 +35,114 @@ public final class CellsTest {
         check.due("is no collection", 1, () -> x.count(6));
     }
 
-    private void laterVariablesAreBoundToEarlier() {
-        GoalEngine x = Talk.engineWith("n2(A)");
-        Talk.ask(x, "n2(A)");
-        x.solve(1);
-        check.due("cells", 6, () -> x.count(0));
-        check.due("all but the question's variable", 5, x::collect);
-        check.due("cells", 1, () -> x.count(0));
-        Talk.ask(x, "same(B,A),same(C,B)");
-        x.solve(2);
-        check.due("the variables stay", 6, x::collect);
-        check.due("answer", Talk.row("A,A,A"), Talk.answer(x));
+    private static GoalEngine after(int steps, String question, String... rules) {
+        GoalEngine x = Talk.engineWith(rules);
+        Talk.ask(x, question);
+        Talk.steps(x, steps);
+        return x;
     }
 
-    private void boundTermsAreLive() {
-        GoalEngine x = Talk.engineWith("n2(n3(A,B,A)),n4(B)", "n4(n5(C))");
-        Talk.ask(x, "n2(A)");
-        check.due("answer", 1, () -> x.solve(2));
-        check.due("cells", 3 + 10 + 5, () -> x.count(0));
-        check.due("live are A, n3(A, B, A), A, B, n5(C), C", 18 - 10, x::collect);
-        check.due("cells", 10, () -> x.count(0));
-        check.due("answer", Talk.row("n3(A,n5(B),A)"), Talk.answer(x));
-        check.due("no more to free", 0, x::collect);
+    /** What a collection leaves as it is: choices, goals, tank, rules, words typed and the answer. */
+    private static String rest(GoalEngine x) {
+        StringBuilder row = new StringBuilder();
+        for (int which = 1; which <= 5; which++) {
+            row.append(x.count(which)).append(' ');
+        }
+        return row.append("| ").append(Talk.answer(x)).toString();
     }
 
-    private void goalsAtHandAreLive() {
-        GoalEngine x = Talk.engineWith("n2(A),n3(B),n4(B,A)", "n3(1)", "n4(1,2)");
-        Talk.ask(x, "n2(A)");
-        x.solve(1);
-        check.due("cells", 3 + 9, () -> x.count(0));
-        check.due("question's goal and rule's head", 4, x::collect);
-        check.due("goals", 2, () -> x.count(2));
+    /** So many cells live, and a second collection finds none to free. */
+    private void live(String what, int due, GoalEngine x) {
+        int before = x.count(0);
+        int collections = x.count(6);
+        String rest = rest(x);
+        check.due(what + ": freed", before - due, x::collect);
+        check.due(what + ": live", due, () -> x.count(0));
+        check.due(what + ": a collection", collections + 1, () -> x.count(6));
+        check.due(what + ": none to free", 0, x::collect);
+        check.due(what + ": live still", due, () -> x.count(0));
+        check.due(what + ": a collection again", collections + 2, () -> x.count(6));
+        check.due(what + ": all else", rest, rest(x));
+    }
+
+    /** "LIVE are the cells of the goals at hand", with the variables in them; heads and goals that are gone are not. */
+    private void goalsAtHand() {
+        GoalEngine x = after(1, "n2(A)", "n2(A),n3(B),n4(B,A)", "n3(1)", "n4(1,2)");
+        live("A, n3, n4, and the rule's two variables", 1 + 2 + 3 + 2, x);
         check.due("goes on", 1, () -> x.solve(2));
         check.due("answer", Talk.row("2"), Talk.answer(x));
+        live("no goals", 1, x);
     }
 
-    private void whatChoicesKeepIsLive() {
-        GoalEngine x = Talk.engineWith("n2(A),n3(A)", "n2(7)", "n3(1)", "n3(2)");
-        Talk.ask(x, "n2(A),n4(B)");
-        x.solve(2);
-        check.due("cells", 6 + 5 + 2, () -> x.count(0));
+    /** "and of those that choices keep": the goal that was tried, and those behind it. */
+    private void goalsOfChoices() {
+        GoalEngine x = after(2, "n2(A),n4(B)", "n2(A),n3(A)", "n2(7)", "n3(1)", "n3(2)");
         check.due("choices", 2, () -> x.count(1));
-        check.due("the head of n2 and of n3(1)", 4, x::collect);
+        live("A, B, n2, n4, and n3 with its variable", 2 + 2 + 2 + 2 + 1, x);
         check.due("n4 fails, then n3(2), then n4", 2, () -> x.solve(3));
         check.due("choices", 0, () -> x.count(1));
         check.due("cells before n2 was tried", 6, () -> x.count(0));
         check.due("goals", 2, () -> x.count(2));
     }
 
-    private void cutFrees() {
-        GoalEngine x = Talk.engineWith("n2(A),n3(A)", "n2(7)", "n3(1)", "n3(2)", "n5(A),n2(A),!");
-        Talk.ask(x, "n2(A)");
-        x.solve(2);
-        check.due("with choices", 2 + 2, x::collect);
-        Talk.ask(x, "n5(A)");
-        x.solve(4);
+    /** A cut gives up choices, and so what they kept. */
+    private void goalsOfChoicesThatAreCut() {
+        String[] rules = {"n2(A),n3(A)", "n2(7)", "n3(1)", "n3(2)", "n5(A),n2(A),!"};
+        live("A, n2 and n3 with their variables", 1 + 3 + 3, after(3, "n5(A)", rules));
+        GoalEngine x = after(4, "n5(A)", rules);
         check.due("no choices", 0, () -> x.count(1));
         check.due("cells", 3 + 5 + 5 + 2, () -> x.count(0));
-        check.due("after the cut only A is live", 14, x::collect);
+        live("after the cut only A", 1, x);
         check.due("answer", Talk.row("1"), Talk.answer(x));
         check.due("no other", 0, () -> x.next() ? 1 : 0);
     }
 
-    /** Every step takes 5 cells; of the 240, the question's leave room for 47 times 5. */
-    private void collectionInAStep() {
-        GoalEngine x = Talk.engineWith("n2(A),n2(A)");
-        Talk.ask(x, "n2(n3(A))");
-        x.solve(20);
-        x.solve(20);
-        check.due("goes on", 2, () -> x.solve(7));
-        check.due("all cells", 240, () -> x.count(0));
-        check.due("no collection", 0, () -> x.count(6));
-        check.due("goes on", 2, () -> x.solve(1));
-        check.due("one collection", 1, () -> x.count(6));
-        check.due("A, n3(A), the goal, its variable, the copy", 1 + 2 + 2 + 1 + 5, () -> x.count(0));
-        Talk.ask(x, "n2(1)");
-        x.solve(20);
-        x.solve(20);
-        x.solve(7);
-        check.due("not all cells", 237, () -> x.count(0));
-        x.solve(1);
-        check.due("two collections", 2, () -> x.count(6));
-        check.due("the goal, its variable, the copy", 2 + 1 + 5, () -> x.count(0));
+    /** "of the question's variables", bound or not, in a goal or not. */
+    private void questionVariables() {
+        live("bound to a number", 1, after(1, "same(A,1)"));
+        live("bound to another", 2, after(1, "same(A,B)"));
+        live("not bound", 1, after(1, "n2(A)", "n2(A)"));
+        live("eight of them", 8, after(3, "n2(A,B,C),n2(D,E,F),n2(G,H,H)", "n2(A,B,C)"));
+        live("none", 0, after(1, "n2(1)", "n2(A)"));
+        GoalEngine x = after(2, "same(B,A),same(C,B)");
+        live("a row of them", 3, x);
+        check.due("answer", Talk.row("A,A,A"), Talk.answer(x));
     }
 
-    private void noRoom() {
-        GoalEngine x = Talk.engineWith("n2(A),n2(n3(A))");
-        Talk.ask(x, "n2(1)");
-        check.dueThrow("no room", UnsupportedOperationException.class, () -> {
-            for (int i = 0; i < 10; i++) {
-                x.solve(20);
-            }
-            return 0;
-        });
-        check.due("over", 0, () -> x.count(0));
-        check.dueThrow("over", IllegalStateException.class, () -> x.solve(1));
-        // A level that stays takes n3, its argument and its variable.
-        check.due("steps", 300 - 79, () -> x.count(3));
-        Talk.ask(x, "n2(1)");
-        check.due("another question has room", 2, () -> x.solve(20));
-        check.due("cells", 2 + 20 * 7, () -> x.count(0));
+    /** "and those of terms to which bound live variables are bound, and of arguments of live names" */
+    private void termsOfLiveVariables() {
+        GoalEngine x = after(2, "n2(A)", "n2(n3(A,B,A)),n4(B)", "n4(n5(C))");
+        check.due("cells", 3 + 10 + 5, () -> x.count(0));
+        live("A, n3(A,B,A), A, B, n5(C), C", 1 + 4 + 1 + 1 + 2 + 1, x);
+        check.due("answer", Talk.row("n3(A,n5(B),A)"), Talk.answer(x));
+        live("a term in a term", 1 + 2 + 2 + 2, after(1, "n2(A)", "n2(n3(n4(n5(1))))"));
+        live("a term that is there twice", 1 + 3 + 1 + 2, after(1, "n2(n6(1),A)", "n2(A,n7(A,A))"));
     }
 
-    /** A choice that is made just before the collection keeps its goal. */
-    private void collectionWithAChoice() {
-        GoalEngine x = Talk.engineWith("n2(A),n4,n2(A)", "n2(5)", "n4");
-        Talk.ask(x, "n2(A)");
-        check.dueThrow("choices keep all goals", UnsupportedOperationException.class, () -> {
-            for (int i = 0; i < 15; i++) {
-                x.solve(20);
-            }
-            return 0;
-        });
-        check.due("over", 0, () -> x.count(1));
+    /** "(A name's cell and those of its arguments are one.)": but a term does not keep that in which it is. */
+    private void namesAndTheirArguments() {
+        live("n3 and its three arguments", 1 + 4, after(1, "n2(A)", "n2(n3(1,nil,2))"));
+        GoalEngine x = after(1, "n2(n4(n3(1)),A)", "n2(n4(B),B)");
+        check.due("cells", 8 + 6, () -> x.count(0));
+        live("A and n3(1)", 1 + 2, x);
+        check.due("answer", Talk.row("n3(1)"), Talk.answer(x));
+    }
+
+    /** Variables that are bound on the way are live only if something live has them. */
+    private void boundVariablesOnTheWay() {
+        live("n2's variable is in no term", 1 + 2, after(2, "n2(A)", "n2(B),n3(B)", "n3(n4(1))"));
+        live("n2's variable is in n5", 1 + 2 + 1 + 2, after(2, "n2(A)", "n2(n5(B)),n3(B)", "n3(n4(1))"));
+    }
+
+    /** "of variables that were bound since a choice was made that there is still, and taken before that" */
+    private void variablesBoundSinceAChoice() {
+        GoalEngine x = after(3, "n2", "n2,n3(A),n4(A),n5(B)", "n3(C)", "n4(n6(1))", "n4(7)", "n5(8)");
+        check.due("a choice", 1, () -> x.count(1));
+        live("n4, n5, their variables, and n6(1)", 2 + 2 + 2 + 2, x);
+        check.due("the choice goes", 1, () -> x.solve(1));
+        x.next();
+        live("what was bound is not bound any more", 2 + 2 + 2, x);
+        check.due("the other way", 1, () -> x.solve(2));
     }
 
     /** Cells are free when the search goes back, whether or not there was a collection since the choice. */
@@ -189,17 +166,16 @@ public final class CellsTest {
 
     public static void main(String[] args) {
         CellsTest test = new CellsTest();
-        test.copies();
         test.counting();
         test.collectingWithoutASearch();
-        test.laterVariablesAreBoundToEarlier();
-        test.boundTermsAreLive();
-        test.goalsAtHandAreLive();
-        test.whatChoicesKeepIsLive();
-        test.cutFrees();
-        test.collectionInAStep();
-        test.noRoom();
-        test.collectionWithAChoice();
+        test.goalsAtHand();
+        test.goalsOfChoices();
+        test.goalsOfChoicesThatAreCut();
+        test.questionVariables();
+        test.termsOfLiveVariables();
+        test.namesAndTheirArguments();
+        test.boundVariablesOnTheWay();
+        test.variablesBoundSinceAChoice();
         test.goingBackAfterACollection();
         test.check.end();
     }

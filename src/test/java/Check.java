@@ -28,6 +28,10 @@ final class Check {
         due(what, Long.toString(want), answerOf(call));
     }
 
+    void dueTrue(String what, boolean holds) {
+        due(what, "true", Boolean.toString(holds));
+    }
+
     void dueThrow(String what, Class<? extends RuntimeException> want, Call call) {
         due(what, want.getSimpleName(), answerOf(call));
     }

@@ -60,6 +60,30 @@ final class Talk {
         return engine.ask();
     }
 
+    /** What one question comes to, with all steps that the tank may have. */
+    static int outcome(GoalEngine engine, String question) {
+        ask(engine, question);
+        return steps(engine, 300);
+    }
+
+    /** As many steps as are said, though one call takes 20 at the most. */
+    static int steps(GoalEngine engine, int many) {
+        int result = 2;
+        for (int left = many; left > 0 && result == 2; left -= 20) {
+            result = engine.solve(Math.min(left, 20));
+        }
+        return result;
+    }
+
+    /** All that an object shows of itself: the seven counts, and the answer. */
+    static String state(GoalEngine engine) {
+        StringBuilder row = new StringBuilder();
+        for (int which = 0; which <= 6; which++) {
+            row.append(engine.count(which)).append(' ');
+        }
+        return row.append("| ").append(answer(engine)).toString();
+    }
+
     /** The words of the answer, one blank between two. */
     static String answer(GoalEngine engine) {
         StringBuilder row = new StringBuilder();

@@ -1,5 +1,3 @@
-import java.util.Arrays;
-
 /** Promises 1 to 4: a new object, put, rule and ask. */
 public final class TypingTest {
     private static final Class<IllegalArgumentException> ARGUMENT = IllegalArgumentException.class;
@@ -20,27 +18,6 @@ public final class TypingTest {
         check.dueThrow("new: next()", STATE, () -> x.next() ? 1 : 0);
         x.stop();
         check.dueThrow("new and stopped: solve(1)", STATE, () -> x.solve(1));
-    }
-
-    private void wordsThatAre() {
-        int[] words = {0, 56, 1, 9, -7, Integer.MAX_VALUE - 6, Integer.MIN_VALUE + 1, 2, 250, 3, 251, 4, 252, 5, 253,
-            6};
-        GoalEngine x = new GoalEngine();
-        for (int i = 0; i < words.length; i++) {
-            int word = words[i];
-            check.due("put(" + word + ")", i + 1, () -> x.put(word));
-        }
-        check.due("words typed", words.length, () -> x.count(5));
-    }
-
-    private void wordsThatAreNone() {
-        int[] words = {7, 15, -1, 64, -8, 258, 259, 260, 261, -6, -5, -4, -3, 14, -2, Integer.MAX_VALUE,
-            Integer.MIN_VALUE, Integer.MIN_VALUE + 2, Integer.MAX_VALUE - 7};
-        GoalEngine x = new GoalEngine();
-        for (int word : words) {
-            check.dueThrow("put(" + word + ")", ARGUMENT, () -> x.put(word));
-        }
-        check.due("words typed", 0, () -> x.count(5));
     }
 
     private void thirtyWords() {
@@ -64,41 +41,6 @@ public final class TypingTest {
             check.due("nothing typed after " + rule, 0, () -> x.count(5));
         }
         check.due("rules", rules.length, () -> x.count(4));
-    }
-
-    private static int ruleOf(GoalEngine x, int... words) {
-        for (int word : words) {
-            x.put(word);
-        }
-        return x.rule();
-    }
-
-    private static int askOf(GoalEngine x, int... words) {
-        for (int word : words) {
-            x.put(word);
-        }
-        return x.ask();
-    }
-
-    private void rowsThatAreNone() {
-        int[][] neither = {{}, {0}, {9}, {3}, {3, 6}, {4, 1}, {5, 1, 1}, {2, 0}, {2, 9}, {3, 1, 0}, {3, 1, 1}, {2, 3},
-            {4, 3, 1}, {12, 3, 0}};
-        GoalEngine x = new GoalEngine();
-        for (int[] row : neither) {
-            String told = Arrays.toString(row);
-            check.dueThrow("rule " + told, ARGUMENT, () -> ruleOf(x, row));
-            check.due("nothing typed after rule " + told, 0, () -> x.count(5));
-            check.dueThrow("ask " + told, ARGUMENT, () -> askOf(x, row));
-            check.due("nothing typed after ask " + told, 0, () -> x.count(5));
-        }
-        int[][] questionsOnly = {{6}, {6, 2}, {8 * 24 + 2}, {8 * 24 + 4, 1, 1}, {8 * 31 + 3, 0}};
-        for (int[] row : questionsOnly) {
-            String told = Arrays.toString(row);
-            check.dueThrow("rule " + told, ARGUMENT, () -> ruleOf(x, row));
-            check.due("question " + told, "true", "" + (askOf(x, row) >= 0));
-            x.stop();
-        }
-        check.due("no rules", 0, () -> x.count(4));
     }
 
     private void sixteenRules() {
@@ -160,11 +102,8 @@ public final class TypingTest {
     public static void main(String[] args) {
         TypingTest test = new TypingTest();
         test.newObject();
-        test.wordsThatAre();
-        test.wordsThatAreNone();
         test.thirtyWords();
         test.rulesThatAre();
-        test.rowsThatAreNone();
         test.sixteenRules();
         test.rulesDuringASearch();
         test.asking();
