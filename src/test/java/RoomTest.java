@@ -191,6 +191,27 @@ public final class RoomTest {
         check.due("n2 and the two n9 are left", 3, () -> x.count(2));
     }
 
+    /** What is bound by the head that a collection made room for is not bound any more when that way fails. */
+    private void undoneAfterACollectionInATry() {
+        GoalEngine x = asked("n2(19),same(A,1),n3(B)", "n2(0),!", "n2(A),is(C,diff(A,1)),n2(C)", "n3(5),n8", "n3(6)");
+        check.due("19 rounds, the last n2, its cut and same", 2, () -> Talk.steps(x, 19 * 3 + 3));
+        check.due("one cell is free", 239, () -> x.count(0));
+        check.due("n3(5)", 2, () -> x.solve(1));
+        check.due("a collection", 1, () -> x.count(6));
+        check.due("n8 fails", 2, () -> x.solve(1));
+        check.due("A, B and n3 are left", 1 + 1 + 2, () -> x.count(0));
+        check.due("n3(6)", 1, () -> x.solve(1));
+        check.due("B was not bound", Talk.row("1,6"), Talk.answer(x));
+    }
+
+    /** A collection moves the variable that was bound since the choice: it is found where it is now. */
+    private void undoneWhereItIsNow() {
+        GoalEngine x = asked("n7(1),n2", "n7(1)", "n2,n4(B),n5(B)", "n4(5)", "n4(6)", "n5(6)");
+        check.due("n7, n2, n4(5)", 2, () -> x.solve(3));
+        check.due("both n7, and n4(5)", 2 + 2 + 2, x::collect);
+        check.due("n5 fails, n4(6), n5", 1, () -> x.solve(3));
+    }
+
     public static void main(String[] args) {
         RoomTest test = new RoomTest();
         test.cellsOfVariables();
@@ -207,6 +228,8 @@ public final class RoomTest {
         test.choicesKeepCells();
         test.failingAfterACollection();
         test.collectionForALaterRule();
+        test.undoneAfterACollectionInATry();
+        test.undoneWhereItIsNow();
         test.check.end();
     }
 }

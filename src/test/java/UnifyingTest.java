@@ -96,6 +96,16 @@ public final class UnifyingTest {
         }
     }
 
+    /** "a term that is a bound variable means that to which it is bound": C is bound to A, not to B. */
+    private void boundVariablesMeanTheirTerms() {
+        GoalEngine x = Talk.engineWith("n2,same(B,A),same(C,B),n5(C)");
+        Talk.ask(x, "n2");
+        check.due("n2 and both pairs", 2, () -> x.solve(3));
+        check.due("n5, C and A live", x.count(0) - 4, x::collect);
+        gives("same(A,B),same(B,C),same(C,n2(D)),same(n2(1),A)", "n2(1),n2(1),n2(1),1");
+        no("same(A,B),same(B,1),same(A,2)");
+    }
+
     /** "Two numbers, or names without arguments: fails unless they are the same." */
     private void numbersAndNames() {
         yes("same(1,1)");
@@ -196,6 +206,7 @@ public final class UnifyingTest {
         test.occurs();
         test.laterVariableIsBound();
         test.laterVariableIsBoundAfterACollection();
+        test.boundVariablesMeanTheirTerms();
         test.numbersAndNames();
         test.namesWithArguments();
         test.threeHundredPairs();

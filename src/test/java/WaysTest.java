@@ -211,6 +211,26 @@ public final class WaysTest {
         }
     }
 
+    /** Far more is bound, and not bound any more, than there are cells. */
+    private void bindingsAreUndoneTimeAndAgain() {
+        GoalEngine x = asked("n2(A,B,C),n2(D,E,F),less(9,A)", "n2(1,1,1)", "n2(2,2,2)", "n2(3,3,3)", "n2(4,4,4)",
+                "n2(5,5,5)", "n2(6,6,6)", "n2(7,7,7)", "n2(8,8,8)", "n2(9,9,9)", "n2(10,A,B)");
+        check.due("nine ways of n2 with ten of the other one", 2, () -> Talk.steps(x, 9 * 21));
+        counts("the tenth", x, 6 + 8 + 3, 0, 3);
+        check.due("answer", 1, () -> x.solve(3));
+        check.due("the tenth with the first", Talk.row("10,A,B,1,1,1"), Talk.answer(x));
+    }
+
+    /** Nor does a search leave anything bound to the next one. */
+    private void bindingsOfManyQuestions() {
+        GoalEngine x = Talk.engineWith("n3,n2(A,B,C),n2(D,E,F),n2(G,H,1)", "n2(1,2,3)", "n2(A,A,1)");
+        for (int i = 0; i < 60; i++) {
+            check.due("ask", 0, () -> Talk.ask(x, "n3"));
+            check.due("solve", 2, () -> x.solve(4));
+            check.due("choices", 2, () -> x.count(1));
+        }
+    }
+
     /** Promise 6: "as if a step had failed", but without a step. */
     private void next() {
         GoalEngine x = asked("n2(A),n3(B)", "n2(1)", "n2(2)", "n3(B)");
@@ -262,6 +282,8 @@ public final class WaysTest {
         test.bindingsAreUndone();
         test.bindingsOfAFailingUnification();
         test.cellsAreFree();
+        test.bindingsAreUndoneTimeAndAgain();
+        test.bindingsOfManyQuestions();
         test.next();
         test.mostChoices();
         test.check.end();
