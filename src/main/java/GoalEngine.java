@@ -45,7 +45,8 @@ public final class GoalEngine {
     private static final int MOST_GOALS = MOST_TYPED * (FULL_TANK + 1);
 
     private static final int NONE = -1;
-    private static final long NO_NUMBER = Long.MIN_VALUE;
+    /** Beyond the range of an int, so that no number is mistaken for it. */
+    private static final long NO_NUMBER = 1L << 32;
 
     private static final int WELL = 0;
     private static final int FAILED = 1;
@@ -904,17 +905,14 @@ public final class GoalEngine {
                 case SAME:
                     return unifier.unify(first, second);
                 case IS:
-                    return unifyWithNumber(first, calculator.calculate(second));
+                    long number = calculator.calculate(second);
+                    return number == NO_NUMBER ? ERROR : unifier.unify(first, (int) number << VALUE_SHIFT | NUMBER);
                 case LESS:
                 case EQUAL:
                     return compare(name, calculator.calculate(first), calculator.calculate(second));
                 default:
                     return FAILED;
             }
-        }
-
-        private int unifyWithNumber(int term, long number) {
-            return number == NO_NUMBER ? ERROR : unifier.unify(term, (int) number << VALUE_SHIFT | NUMBER);
         }
 
         private static int compare(int name, long first, long second) {

@@ -5,16 +5,32 @@ import java.util.Arrays;
 import java.util.HashSet;
 import java.util.Set;
 import java.util.TreeSet;
+import java.util.stream.Collectors;
 
 /** The class has the document's face and nothing else that another class could see. */
 public final class FaceTest {
-    private static final Set<String> METHODS = Set.of("int put(int)", "int rule()", "int ask()", "int solve(int)",
-            "boolean next()", "void stop()", "int collect()", "int count(int)", "int words()", "int word(int)");
+    private static final String ARGUMENT = "IllegalArgumentException";
+    private static final String STATE = "IllegalStateException";
+    private static final Set<String> METHODS = Set.of(
+            "int put(int) throws " + ARGUMENT + ", " + STATE,
+            "int rule() throws " + STATE + ", " + ARGUMENT,
+            "int ask() throws " + ARGUMENT,
+            "int solve(int) throws " + ARGUMENT + ", " + STATE + ", ArithmeticException, UnsupportedOperationException",
+            "boolean next() throws " + STATE,
+            "void stop()",
+            "int collect()",
+            "int count(int) throws " + ARGUMENT,
+            "int words()",
+            "int word(int) throws IndexOutOfBoundsException");
+
+    private static String names(Class<?>[] types) {
+        return Arrays.stream(types).map(Class::getSimpleName).collect(Collectors.joining(", "));
+    }
 
     private static String signature(Method method) {
-        String parameters = Arrays.toString(method.getParameterTypes());
-        return method.getReturnType() + " " + method.getName() + "("
-                + parameters.substring(1, parameters.length() - 1) + ")";
+        String thrown = names(method.getExceptionTypes());
+        return method.getReturnType() + " " + method.getName() + "(" + names(method.getParameterTypes()) + ")"
+                + (thrown.isEmpty() ? "" : " throws " + thrown);
     }
 
     private static void lookAtMethods(Check check) {
